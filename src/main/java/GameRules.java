@@ -14,6 +14,7 @@ public final class GameRules {
 
     private static final int MOST_MEN = 12;
     private static final int MOST_STEPS = 8;
+    private static final int MOST_WORDS = 6;
     private static final int MOST_BECOME = 6;
     private static final int BOARD = 64;
     private static final int CODES = 2 * MOST_MEN;
@@ -32,6 +33,15 @@ public final class GameRules {
     private static final int WON = 1, LOST = 2;
     private static final int STEP_MOVE = 0, CATCH_MOVE = 1, CASTLING = 2, DROP = 3;
     private static final int DRAWN = 2;
+
+    // A single bit times SPREAD has six bits on top that no other single bit has there: these tell its square.
+    private static final long SPREAD = 0x03f79d71b4cb0a89L;
+    private static final int[] SQUARE_OF = {
+        0, 1, 48, 2, 57, 49, 28, 3, 61, 58, 50, 42, 38, 29, 17, 4,
+        62, 55, 59, 36, 53, 51, 43, 22, 45, 39, 33, 30, 24, 18, 12, 5,
+        63, 47, 56, 27, 60, 41, 37, 16, 54, 35, 52, 21, 44, 32, 23, 11,
+        46, 26, 40, 15, 34, 20, 31, 10, 25, 14, 19, 9, 13, 8, 7, 6
+    };
 
     private static final String FIRST_MEN =
         "board 8 8; man k 0 1, 1 1; man q 0 1 ride 7, 1 1 ride 7; man r 0 1 ride 7; man b 1 1 ride 7; man n 1 2;";
@@ -198,14 +208,14 @@ public final class GameRules {
     }
 
     public int moves(int p) {
-        return isPlace(p) ? referee.collect(places[p], list, MOST_MOVES) : UNKNOWN;
+        return isPlace(p) ? listMoves(p) : UNKNOWN;
     }
 
     public int move(int p, int i, int what) {
         if (what < 0 || what > 5) {
             return OUTSIDE;
         }
-        if (!hasMove(p, i)) {
+        if (i < 0 || i >= listMoves(p)) {
             return UNKNOWN;
         }
         int move = list[i];
@@ -220,7 +230,7 @@ public final class GameRules {
     }
 
     public int go(int p, int i) {
-        if (!hasMove(p, i)) {
+        if (i < 0 || i >= listMoves(p)) {
             return UNKNOWN;
         }
         int place = freePlace();
@@ -259,12 +269,12 @@ public final class GameRules {
     }
 
     public int say(int p, int i) {
-        if (!hasMove(p, i)) {
+        int n = listMoves(p);
+        if (i < 0 || i >= n) {
             return UNKNOWN;
         }
-        int n = referee.collect(places[p], list, MOST_MOVES);
         out.clear();
-        speaker.writeMove(places[p], list, n, i, out);
+        speaker.writeMove(list, n, i, out);
         int mark = speaker.markOf(places[p], list[i]);
         if (mark != NONE) {
             out.append(mark);
@@ -275,8 +285,11 @@ public final class GameRules {
     public int hear(int p) {
         int answer = UNKNOWN;
         if (isPlace(p)) {
-            int n = referee.collect(places[p], list, MOST_MOVES);
-            answer = speaker.find(places[p], list, n, tape);
+            answer = speaker.find(list, listMoves(p), tape);
+            if (answer != NONE && !speaker.isWhole(tape)) {
+                boolean marked = tape.byteAt(tape.length - 1) == speaker.markOf(places[p], list[answer]);
+                answer = marked ? answer : NONE;
+            }
         }
         tape.clear();
         return answer;
@@ -372,7 +385,7 @@ public final class GameRules {
     }
 
     public int book(int p, int i) {
-        if (!isPlace(p) || (i != NONE && !hasMove(p, i))) {
+        if (!isPlace(p) || (i != NONE && (i < 0 || i >= listMoves(p)))) {
             return UNKNOWN;
         }
         int sum = 0;
@@ -519,6 +532,11 @@ public final class GameRules {
         return square >= 0 && square < law.squares;
     }
 
+    /** The least square of some. */
+    private static int lowest(long squares) {
+        return SQUARE_OF[(int) ((squares & -squares) * SPREAD >>> 58)];
+    }
+
     private static boolean isSide(int side) {
         return side == 0 || side == 1;
     }
@@ -527,9 +545,9 @@ public final class GameRules {
         return g >= 0 && g < GAMES;
     }
 
-    /** Whether the position is there and has LEGAL move i; its LEGAL moves stand in the list then. */
-    private boolean hasMove(int p, int i) {
-        return isPlace(p) && i >= 0 && i < referee.collect(places[p], list, MOST_MOVES);
+    /** Collects the LEGAL moves of a position in the list: how many; 0, if it is not there. */
+    private int listMoves(int p) {
+        return isPlace(p) ? referee.collect(places[p], list, MOST_MOVES) : 0;
     }
 
     /** The position of game g behind k moves; made when it is first asked for, and used again later. */
@@ -708,15 +726,12 @@ public final class GameRules {
             next = 0;
             told = 0;
             advance();
-            if (!takeBoard()) {
-                return false;
+            boolean fits = takeBoard();
+            for (int i = 0; i < TAPE_ROOM && fits && kind != END; i++) {
+                fits = isWord("man") ? takeMan() : isWord("becomes") ? takeBecomes() : takeOther();
+                fits = fits && takeEnd();
             }
-            for (int i = 0; i < TAPE_ROOM && kind != END; i++) {
-                if (!takeSentence()) {
-                    return false;
-                }
-            }
-            return kind == END;
+            return fits && kind == END;
         }
 
         int faultPlace() {
@@ -818,15 +833,7 @@ public final class GameRules {
             return takeEnd();
         }
 
-        private boolean takeSentence() {
-            if (isWord("man")) {
-                advance();
-                return takeMan() && takeEnd();
-            }
-            if (isWord("becomes")) {
-                advance();
-                return takeBecomes() && takeEnd();
-            }
+        private boolean takeOther() {
             int which = onceWord();
             boolean early = which == CASTLE_TOLD && law.royal == NONE;
             if (which == 0 || early || (told & which) != 0) {
@@ -834,7 +841,7 @@ public final class GameRules {
             }
             told |= which;
             advance();
-            return takeOnce(which) && takeEnd();
+            return takeOnce(which);
         }
 
         /** Which of the sentences that are told once at most the WORD begins. */
@@ -900,6 +907,7 @@ public final class GameRules {
         }
 
         private boolean takeMan() {
+            advance();
             int letter = oneLetter();
             if (letter == NONE || law.manOf(letter) != NONE || law.men >= MOST_MEN) {
                 return false;
@@ -922,7 +930,7 @@ public final class GameRules {
 
         private boolean takeStep(int man, int i) {
             int step = 0;
-            while (kind == WORD) {
+            for (int n = 0; n < MOST_WORDS && kind == WORD; n++) {
                 int flag = stepFlag();
                 if (flag == 0 || !fits(step, flag)) {
                     return false;
@@ -1014,6 +1022,7 @@ public final class GameRules {
         }
 
         private boolean takeBecomes() {
+            advance();
             int man = toldMan();
             if (man == NONE || man == law.royal || law.becomesOthers(man) || (law.risen >> man & 1) != 0) {
                 return false;
@@ -1061,7 +1070,7 @@ public final class GameRules {
         }
 
         private boolean takeHill() {
-            for (int i = 0; i < BOARD && (i == 0 || kind == WORD); i++) {
+            for (int i = 0; i <= BOARD && (i == 0 || kind == WORD); i++) {
                 int letter = oneLetter();
                 if (letter == NONE || letter - 'a' >= law.files) {
                     return false;
@@ -1137,11 +1146,13 @@ public final class GameRules {
             long all = 0;
             int wrong = taking ? TO : ON;
             long left = from[code * BOARD + t] & ~occupied;
-            for (int n = Long.bitCount(left); n > 0; n--) {
+            int start = cell(code, 0, t);
+            for (int n = 0; n < BOARD && left != 0; n++) {
                 long bit = left & -left;
                 left ^= bit;
-                int cell = cell(code, Long.bitCount(bit - 1), t);
-                for (int w = first[cell]; w < first[cell + 1]; w++) {
+                int cell = start + SQUARE_OF[(int) (bit * SPREAD >>> 58)] * BOARD;
+                int end = first[cell + 1];
+                for (int w = first[cell]; w < end; w++) {
                     if ((way[w] >> 6 & wrong) == 0 && isOpen(w, occupied)) {
                         all |= bit;
                     }
@@ -1375,12 +1386,12 @@ public final class GameRules {
     private static final class Referee {
         private final Law law;
         private final Ways ways;
-        private final int[] one = new int[1];
-        private final int[] room = new int[MOST_MOVES];
+        final int[] room = new int[MOST_MOVES];
         private final Position shifted = new Position();
-        private Position p;
+        /** The position whose moves are collected, and what is found so far. */
+        private Position here;
         private int[] list;
-        private int count, most;
+        private int count;
         private boolean takes;
         /** No move that leaves these squares as they are, and the ROYAL man, lays this open. */
         private long watched;
@@ -1432,21 +1443,24 @@ public final class GameRules {
             return move & ~(15 << 16) | man << 16;
         }
 
-        /** Whether a square is ATTACKED. */
+        /** Whether a square is ATTACKED. All is written out here: no other code runs as often. */
         boolean isHit(Position p, int square, int side) {
-            long occupied = p.occupied();
+            long occupied = p.of[0] | p.of[1];
             long left = p.of[side];
-            for (int n = Long.bitCount(left); n > 0; n--) {
+            for (int n = 0; n < BOARD && left != 0; n++) {
                 long bit = left & -left;
                 left ^= bit;
-                int s = Long.bitCount(bit - 1);
+                int s = SQUARE_OF[(int) (bit * SPREAD >>> 58)];
                 int code = p.on[s];
                 if ((ways.hitFrom[code * BOARD + square] & bit) == 0) {
                     continue;
                 }
-                int cell = Ways.cell(code, s, square);
+                int cell = (code * BOARD + s) * BOARD + square;
                 for (int w = ways.first[cell]; w < ways.first[cell + 1]; w++) {
-                    if ((ways.way[w] >> 6 & TO) == 0 && ways.isOpen(w, occupied)) {
+                    int flags = ways.way[w] >> 6;
+                    long met = ways.between[w] & occupied;
+                    boolean open = (flags & OVER) == 0 ? met == 0 : met != 0 && (met & met - 1) == 0;
+                    if (open && (flags & TO) == 0) {
                         return true;
                     }
                 }
@@ -1458,40 +1472,29 @@ public final class GameRules {
             return p.royalAt[side] != NONE && isHit(p, p.royalAt[side], 1 - side);
         }
 
-        /** LEGAL moves into a list, in their ORDER; no more than most. */
-        int collect(Position of, int[] into, int atMost) {
-            begin(of, into, atMost);
-            if (earlyEnd(p) != 0) {
+        /** LEGAL moves into a list, in their ORDER: how many; it stops behind a man's when there are enough. */
+        int collect(Position of, int[] into, int enough) {
+            begin(of, into);
+            if (earlyEnd(here) != 0) {
                 return 0;
             }
-            long left = p.of[p.side];
-            for (int n = Long.bitCount(left); n > 0 && count < most; n--) {
-                int s = Long.bitCount((left & -left) - 1);
+            long left = here.of[here.side];
+            for (int n = 0; n < BOARD && left != 0 && count < enough; n++) {
+                int s = lowest(left);
                 left &= left - 1;
-                int code = p.on[s];
                 int before = count;
-                int came = NONE;
-                int end = ways.first[Ways.cell(code, s, BOARD)];
-                for (int w = ways.first[Ways.cell(code, s, 0)]; w < end; w++) {
-                    int t = ways.way[w] & 63;
-                    if (t != came && leads(p, w, p.side)) {
-                        came = t;
-                        int move = moveAlong(w, s, code);
-                        int choices = choices(move);
-                        for (int i = 0; i < choices; i++) {
-                            offer(becoming(move, law.becomes[(code >> 1) * MOST_BECOME + i]));
-                        }
-                        if (choices == 0) {
-                            offer(move);
-                        }
-                    }
+                addSteps(s);
+                if (s == here.royalAt[here.side] && here.rights != 0) {
+                    addCastling(s, -1, before);
+                    addCastling(s, 1, before);
                 }
-                if (code >> 1 == law.royal && p.rights != 0) {
-                    offerCastling(s, before);
-                }
+                keepLawful(before);
             }
-            if (law.has(HAND)) {
-                offerDrops();
+            int drops = law.has(HAND) ? law.squares : 0;
+            for (int t = 0; t < drops && count < enough; t++) {
+                int before = count;
+                addDrops(t);
+                keepLawful(before);
             }
             if (law.has(MUST) && takes) {
                 keepTakes();
@@ -1499,28 +1502,27 @@ public final class GameRules {
             return count;
         }
 
-        private void begin(Position of, int[] into, int atMost) {
-            p = of;
+        private void begin(Position of, int[] into) {
+            here = of;
             list = into;
-            most = Math.min(atMost, into.length);
             count = 0;
             takes = false;
             watched = 0;
             calm = law.royal == NONE || !law.has(BLAST | SHY);
-            if (calm && p.royalAt[p.side] != NONE) {
-                survey(p.royalAt[p.side]);
+            if (calm && here.royalAt[here.side] != NONE) {
+                survey(here.royalAt[here.side]);
             }
         }
 
         /** Looks at all ways by which the other side's men may come to the ROYAL man, open or not. */
         private void survey(int royal) {
-            long occupied = p.occupied();
-            long left = p.of[1 - p.side];
-            for (int n = Long.bitCount(left); n > 0; n--) {
+            long occupied = here.occupied();
+            long left = here.of[1 - here.side];
+            for (int n = 0; n < BOARD && left != 0; n++) {
                 long bit = left & -left;
                 left ^= bit;
-                int s = Long.bitCount(bit - 1);
-                int code = p.on[s];
+                int s = SQUARE_OF[(int) (bit * SPREAD >>> 58)];
+                int code = here.on[s];
                 if ((ways.hitFrom[code * BOARD + royal] & bit) == 0) {
                     continue;
                 }
@@ -1548,12 +1550,41 @@ public final class GameRules {
             return (flags & (met ? TO : ON)) == 0;
         }
 
+        /** Moves by STEPS of the man on s. */
+        private void addSteps(int s) {
+            int code = here.on[s];
+            int came = NONE;
+            int end = ways.first[Ways.cell(code, s, BOARD)];
+            for (int w = ways.first[Ways.cell(code, s, 0)]; w < end; w++) {
+                int t = ways.way[w] & 63;
+                if (t == came || !leads(here, w, here.side)) {
+                    continue;
+                }
+                came = t;
+                int move = moveAlong(w, s, code);
+                int choices = choices(move);
+                for (int i = 0; i < choices; i++) {
+                    addMove(becoming(move, law.becomes[(code >> 1) * MOST_BECOME + i]));
+                }
+                if (choices == 0) {
+                    addMove(move);
+                }
+            }
+        }
+
+        private void addMove(int move) {
+            if (count < list.length) {
+                list[count] = move;
+                count++;
+            }
+        }
+
         private int moveAlong(int w, int s, int code) {
             int t = ways.way[w] & 63;
             int flags = ways.way[w] >> 6 & 63;
             int k = ways.way[w] >> 12;
-            boolean caught = (flags & CATCH) != 0 && (p.over >>> t & 1) != 0;
-            int victim = caught ? p.on[p.passSquare(0)] : p.on[t];
+            boolean caught = (flags & CATCH) != 0 && (here.over >>> t & 1) != 0;
+            int victim = caught ? here.on[here.passSquare(0)] : here.on[t];
             int move = plainMove(s, t, code >> 1, caught ? CATCH_MOVE : STEP_MOVE);
             if (victim >= 0) {
                 move = move & ~(15 << 20) | victim >> 1 << 20;
@@ -1563,32 +1594,59 @@ public final class GameRules {
 
         /** How many men the one that moves may become: 0, if it stays what it is. */
         private int choices(int move) {
-            int man = manOf(move);
             boolean gone = law.has(BLAST) && takenBy(move) != NONE;
-            return !gone && law.isLast(comeTo(move), p.side) ? law.becomesCount[man] : 0;
+            return !gone && law.isLast(comeTo(move), here.side) ? law.becomesCount[manOf(move)] : 0;
         }
 
-        /** Takes a move into the list, if it is LEGAL (must aside). */
-        private void offer(int move) {
-            if (count >= most) {
+        /** CASTLING with the nearest man on one hand, among the ROYAL man's other moves. */
+        private void addCastling(int s, int d, int before) {
+            int other = 1 - here.side;
+            int m = nearest(here, s, d);
+            if (m == NONE || Math.abs(m - s) < 3 || (here.rights & here.of[here.side] & 1L << m) == 0) {
                 return;
             }
-            if (!isSafe(move)) {
-                int own = p.side;
-                int other = 1 - own;
-                shifted.copyFrom(p);
-                shift(shifted, move);
-                boolean gone = p.royalAt[other] != NONE && shifted.royalAt[other] == NONE;
-                if (p.royalAt[own] != NONE && (shifted.royalAt[own] == NONE || !gone && isRoyalHit(shifted, own))) {
-                    return;
-                }
-                if (law.has(SHY) && isRoyalHit(shifted, other)) {
-                    return;
+            if (isHit(here, s, other) || isHit(here, s + d, other) || isHit(here, s + 2 * d, other)) {
+                return;
+            }
+            addMove(plainMove(s, s + 2 * d, law.royal, CASTLING));
+            for (int i = count - 1; i > before && comeTo(list[i - 1]) > comeTo(list[i]); i--) {
+                int later = list[i - 1];
+                list[i - 1] = list[i];
+                list[i] = later;
+            }
+        }
+
+        private void addDrops(int t) {
+            if (here.on[t] != NONE) {
+                return;
+            }
+            boolean edge = law.isLast(t, 0) || law.isLast(t, 1);
+            for (int m = 0; m < law.men; m++) {
+                if (here.inHand(here.side, m) > 0 && !(edge && law.becomesOthers(m))) {
+                    addMove(plainMove(0, t, m, DROP));
                 }
             }
-            list[count] = move;
-            count++;
-            takes = takes || takenBy(move) != NONE;
+        }
+
+        /** Of the moves from a place of the list on, keeps those that are LEGAL (must aside). */
+        private void keepLawful(int before) {
+            int kept = before;
+            for (int i = before; i < count; i++) {
+                int move = list[i];
+                boolean lawful = isSafe(move);
+                if (!lawful) {
+                    shifted.copyFrom(here);
+                    shift(shifted, move);
+                    blast(shifted, move);
+                    lawful = mayStand();
+                }
+                if (lawful) {
+                    list[kept] = move;
+                    kept++;
+                    takes = takes || takenBy(move) != NONE;
+                }
+            }
+            count = kept;
         }
 
         /** Whether it is plain that a move does not lay the own ROYAL man open. */
@@ -1602,54 +1660,36 @@ public final class GameRules {
                 changed |= 1L << leftBy(move);
             }
             if (kind == CATCH_MOVE) {
-                changed |= 1L << p.passSquare(0);
+                changed |= 1L << here.passSquare(0);
             }
             return (changed & watched) == 0;
         }
 
-        private void offerCastling(int s, int before) {
-            int other = 1 - p.side;
-            for (int d = -1; d <= 1; d += 2) {
-                int m = nearest(p, s, d);
-                if (m == NONE || Math.abs(m - s) < 3 || (p.rights & p.of[p.side] & 1L << m) == 0) {
-                    continue;
-                }
-                if (isHit(p, s, other) || isHit(p, s + d, other) || isHit(p, s + 2 * d, other)) {
-                    continue;
-                }
-                offer(plainMove(s, s + 2 * d, law.royal, CASTLING));
-                for (int i = count - 1; i > before && comeTo(list[i - 1]) > comeTo(list[i]); i--) {
-                    int later = list[i - 1];
-                    list[i - 1] = list[i];
-                    list[i] = later;
+        /** Whether the shifted men may stand so behind a move. */
+        private boolean mayStand() {
+            int own = here.side;
+            int other = 1 - own;
+            int mine = shifted.royalAt[own];
+            int its = shifted.royalAt[other];
+            if (here.royalAt[own] != NONE) {
+                boolean gone = here.royalAt[other] != NONE && its == NONE;
+                if (mine == NONE || !gone && isHit(shifted, mine, other)) {
+                    return false;
                 }
             }
+            return !law.has(SHY) || its == NONE || !isHit(shifted, its, own);
         }
 
         /** The first man from s on, along the rank. */
         private int nearest(Position p, int s, int d) {
-            int f = law.fileOf[s] + d;
-            for (int m = s + d; f >= 0 && f < law.files; m += d) {
+            int m = s;
+            for (int f = law.fileOf[s] + d; f >= 0 && f < law.files; f += d) {
+                m += d;
                 if (p.on[m] != NONE) {
                     return m;
                 }
-                f += d;
             }
             return NONE;
-        }
-
-        private void offerDrops() {
-            for (int t = 0; t < law.squares; t++) {
-                if (p.on[t] != NONE) {
-                    continue;
-                }
-                boolean edge = law.isLast(t, 0) || law.isLast(t, 1);
-                for (int m = 0; m < law.men; m++) {
-                    if (p.inHand(p.side, m) > 0 && !(edge && law.becomesOthers(m))) {
-                        offer(plainMove(0, t, m, DROP));
-                    }
-                }
-            }
         }
 
         private void keepTakes() {
@@ -1663,7 +1703,7 @@ public final class GameRules {
             count = kept;
         }
 
-        /** Does what a move does to the men on squares. */
+        /** Does what a move does to the men on squares, blast aside. */
         private void shift(Position p, int move) {
             int s = leftBy(move);
             int t = comeTo(move);
@@ -1682,18 +1722,19 @@ public final class GameRules {
                 p.put(p.passSquare(0), NONE, law.royal);
             }
             p.put(s, NONE, law.royal);
-            if (law.has(BLAST) && takenBy(move) != NONE) {
-                p.put(t, NONE, law.royal);
-                blastAround(p, t);
-            } else {
-                p.put(t, becomes(move) == NONE ? code : 2 * becomes(move) + p.side, law.royal);
-            }
+            p.put(t, becomes(move) == NONE ? code : 2 * becomes(move) + p.side, law.royal);
         }
 
-        private void blastAround(Position p, int t) {
+        /** Does what blast does when one was taken. */
+        private void blast(Position p, int move) {
+            if (!law.has(BLAST) || takenBy(move) == NONE) {
+                return;
+            }
+            int t = comeTo(move);
+            p.put(t, NONE, law.royal);
             long left = ways.around[t] & p.occupied();
-            for (int n = Long.bitCount(left); n > 0; n--) {
-                int s = Long.bitCount((left & -left) - 1);
+            for (int n = 0; n < BOARD && left != 0; n++) {
+                int s = lowest(left);
                 left &= left - 1;
                 if ((law.firm >> (p.on[s] >> 1) & 1) == 0) {
                     p.put(s, NONE, law.royal);
@@ -1712,6 +1753,7 @@ public final class GameRules {
             }
             p.touched = 0;
             shift(p, move);
+            blast(p, move);
             p.rights &= ~p.touched;
             if (kind == DROP) {
                 p.addToHand(own, man, -1);
@@ -1770,7 +1812,7 @@ public final class GameRules {
             if (early != 0) {
                 return early;
             }
-            if (collect(p, one, 1) > 0) {
+            if (collect(p, room, 1) > 0) {
                 return 0;
             }
             return isRoyalHit(p, p.side) ? 5 : 6;
@@ -1828,8 +1870,11 @@ public final class GameRules {
             }
             for (int side = 0; side < 2; side++) {
                 int sum = 0;
-                for (int s = 0; s < law.squares; s++) {
-                    sum += p.on[s] == 2 * law.royal + side ? 1 : 0;
+                long left = p.of[side];
+                for (int n = 0; n < BOARD && left != 0; n++) {
+                    int s = lowest(left);
+                    left &= left - 1;
+                    sum += p.on[s] >> 1 == law.royal ? 1 : 0;
                 }
                 if (sum > 1 || (sum == 0 && law.has(BLAST)) || p.inHand(side, law.royal) > 0) {
                     return false;
@@ -1840,9 +1885,12 @@ public final class GameRules {
 
         /** Whether a man that becomes others is on its last rank. */
         private boolean hasLateMan(Position p) {
-            for (int s = 0; s < law.squares; s++) {
+            long left = p.of[0] | p.of[1];
+            for (int n = 0; n < BOARD && left != 0; n++) {
+                int s = lowest(left);
+                left &= left - 1;
                 int code = p.on[s];
-                if (code != NONE && law.isLast(s, code & 1) && law.becomesOthers(code >> 1)) {
+                if (law.becomesOthers(code >> 1) && law.isLast(s, code & 1)) {
                     return true;
                 }
             }
@@ -1926,23 +1974,12 @@ public final class GameRules {
             return false;
         }
 
-        /** Whether some LEGAL move takes. */
-        boolean mayTake(Position p) {
-            int n = collect(p, room, MOST_MOVES);
-            for (int i = 0; i < n; i++) {
-                if (takenBy(room[i]) != NONE) {
-                    return true;
-                }
-            }
-            return false;
-        }
-
         /** The squares that a side SEES. */
         long seenBy(Position p, int side) {
             long seen = p.of[side];
             long left = seen;
-            for (int n = Long.bitCount(left); n > 0; n--) {
-                int s = Long.bitCount((left & -left) - 1);
+            for (int n = 0; n < BOARD && left != 0; n++) {
+                int s = lowest(left);
                 left &= left - 1;
                 int end = ways.first[Ways.cell(p.on[s], s, BOARD)];
                 for (int w = ways.first[Ways.cell(p.on[s], s, 0)]; w < end; w++) {
@@ -2036,7 +2073,7 @@ public final class GameRules {
                 return true;
             }
             int last = NONE;
-            for (int i = 0; i < BOARD && (i == 0 || text.byteAt(at) != ' '); i++) {
+            for (int i = 0; i <= BOARD && (i == 0 || text.byteAt(at) != ' '); i++) {
                 int letter = at;
                 int square = readSquare();
                 if (square == NONE) {
@@ -2202,7 +2239,7 @@ public final class GameRules {
         private final Law law;
         private final Referee referee;
         private final Position behind = new Position();
-        private final Text short1 = new Text(16);
+        private final Text heard = new Text(16);
 
         Speaker(Law law, Referee referee) {
             this.law = law;
@@ -2210,7 +2247,7 @@ public final class GameRules {
         }
 
         /** The SHORT TEXT of move i of n, without what stands behind each text. */
-        void writeMove(Position p, int[] list, int n, int i, Text out) {
+        void writeMove(int[] list, int n, int i, Text out) {
             int move = list[i];
             int t = Referee.comeTo(move);
             int kind = Referee.kindOf(move);
@@ -2279,25 +2316,27 @@ public final class GameRules {
             return referee.isRoyalHit(behind, behind.side) ? '+' : NONE;
         }
 
-        /** Which of n LEGAL moves a text is. */
-        int find(Position p, int[] list, int n, Text said) {
+        /** Which of n LEGAL moves a text is, whatever its last byte is, if it has one more. */
+        int find(int[] list, int n, Text said) {
             for (int i = 0; i < n; i++) {
-                short1.clear();
-                writeMove(p, list, n, i, short1);
-                int rest = said.length - short1.length;
-                if (rest < 0 || rest > 1 || !begins(said)) {
-                    continue;
-                }
-                if (rest == 0 || said.byteAt(said.length - 1) == markOf(p, list[i])) {
+                heard.clear();
+                writeMove(list, n, i, heard);
+                int rest = said.length - heard.length;
+                if ((rest == 0 || rest == 1) && begins(said)) {
                     return i;
                 }
             }
             return NONE;
         }
 
+        /** Whether the text that was found has nothing behind it. */
+        boolean isWhole(Text said) {
+            return said.length == heard.length;
+        }
+
         private boolean begins(Text said) {
-            for (int i = 0; i < short1.length; i++) {
-                if (short1.byteAt(i) != said.byteAt(i)) {
+            for (int i = 0; i < heard.length; i++) {
+                if (heard.byteAt(i) != said.byteAt(i)) {
                     return false;
                 }
             }
@@ -2335,8 +2374,8 @@ public final class GameRules {
                 return true;
             }
             long left = base.of[base.side];
-            for (int n = Long.bitCount(left); n > 0 && !over; n--) {
-                int t = Long.bitCount((left & -left) - 1);
+            for (int n = 0; n < BOARD && left != 0 && !over; n++) {
+                int t = lowest(left);
                 left &= left - 1;
                 int man = base.on[t] >> 1;
                 takeBack(t, man);
@@ -2354,29 +2393,34 @@ public final class GameRules {
 
         /** All positions from which a man, as it was then, came to t. */
         private void takeBack(int t, int man) {
+            int code = 2 * man + base.side;
             for (int taken = NONE; taken < law.men; taken++) {
-                if (taken == NONE || taken != law.royal) {
-                    takeBackTaking(t, man, taken);
+                if (taken != NONE && taken == law.royal) {
+                    continue;
+                }
+                long left = ways.origins(code, t, taken != NONE, base.occupied());
+                for (int n = 0; n < BOARD && left != 0 && !over; n++) {
+                    int s = lowest(left);
+                    left &= left - 1;
+                    int one = s | t << 6 | man << 12 | (taken == NONE ? NO_MAN : taken) << 16;
+                    lay(board, one);
+                    if (isBefore(taken)) {
+                        keep(one);
+                    }
                 }
             }
         }
 
-        private void takeBackTaking(int t, int man, int taken) {
-            int code = 2 * man + base.side;
-            long left = ways.origins(code, t, taken != NONE, base.occupied());
-            for (int n = Long.bitCount(left); n > 0 && !over; n--) {
-                int s = Long.bitCount((left & -left) - 1);
-                left &= left - 1;
-                int one = s | t << 6 | man << 12 | (taken == NONE ? NO_MAN : taken) << 16;
-                lay(board, one);
-                if (referee.faultOf(board) != 0 || referee.earlyEnd(board) != 0) {
-                    continue;
-                }
-                if (taken == NONE && law.has(MUST) && referee.mayTake(board)) {
-                    continue;
-                }
-                keep(one);
+        /** Whether the position on the board may be, and its move was LEGAL, as far as other moves count. */
+        private boolean isBefore(int taken) {
+            if (referee.faultOf(board) != 0 || referee.earlyEnd(board) != 0) {
+                return false;
             }
+            if (taken != NONE || !law.has(MUST)) {
+                return true;
+            }
+            int n = referee.collect(board, referee.room, MOST_MOVES);
+            return n > 0 && Referee.takenBy(referee.room[0]) == NONE;
         }
 
         private void lay(Position p, int one) {
@@ -2661,11 +2705,14 @@ public final class GameRules {
             return low;
         }
 
-        /** Puts a SET's men on the squares that a number tells: false, if two share one, or like men do not rise. */
+        /**
+         * Puts a SET's men on the squares that a number tells: false, if two share one, if like men do not rise
+         * (so that each position has one number), or if one that becomes others is on its last rank.
+         */
         private boolean layOut(int key, int number) {
             long men = board.occupied();
-            for (int n = Long.bitCount(men); n > 0; n--) {
-                board.put(Long.bitCount((men & -men) - 1), NONE, law.royal);
+            for (int n = 0; n < BOARD && men != 0; n++) {
+                board.put(lowest(men), NONE, law.royal);
                 men &= men - 1;
             }
             int size = sizeOf(key);
@@ -2677,7 +2724,8 @@ public final class GameRules {
                 rest /= squares;
                 int code = codeIn(key, slot);
                 boolean falls = last >> 6 == code && last > (code << 6 | square);
-                if (falls || board.on[square] != NONE) {
+                boolean late = law.becomesOthers(code >> 1) && law.isLast(square, code & 1);
+                if (falls || late || board.on[square] != NONE) {
                     return false;
                 }
                 last = code << 6 | square;
@@ -2703,7 +2751,8 @@ public final class GameRules {
 
         private int earlyWorth(int side) {
             board.side = side;
-            if (referee.faultOf(board) != 0) {
+            // What else makes a position RIGHT holds for BARE ones of a SET, as layOut() puts them.
+            if (referee.isRoyalHit(board, 1 - side)) {
                 return NOT_RIGHT;
             }
             int end = referee.earlyEnd(board);
@@ -2740,7 +2789,8 @@ public final class GameRules {
                     if (worths[node] == OPEN) {
                         settleCount(node);
                     }
-                    if (worths[node] == OPEN && (left[node] & COUNT) == 0 && layOut(keys[set], node - starts[set] >> 1)) {
+                    boolean stuck = worths[node] == OPEN && (left[node] & COUNT) == 0;
+                    if (stuck && layOut(keys[set], node - starts[set] >> 1)) {
                         board.side = node - starts[set] & 1;
                         worths[node] = endWorth(referee.isRoyalHit(board, board.side) ? 5 : 6);
                     }
@@ -2771,8 +2821,8 @@ public final class GameRules {
                 return;
             }
             long men = board.of[mover];
-            for (int n = Long.bitCount(men); n > 0; n--) {
-                int t = Long.bitCount((men & -men) - 1);
+            for (int n = 0; n < BOARD && men != 0; n++) {
+                int t = lowest(men);
                 men &= men - 1;
                 int code = board.on[t];
                 takeBack(t, code);
@@ -2803,20 +2853,36 @@ public final class GameRules {
             if (set == NONE) {
                 return;
             }
+            int start = starts[set] + (code & 1);
+            int least = numberOf(code << 6);
+            int weight = weightOf(code);
             long men = ways.origins(code, t, taken != NONE, board.occupied());
-            for (int n = Long.bitCount(men); n > 0; n--) {
-                int s = Long.bitCount((men & -men) - 1);
+            for (int n = 0; n < BOARD && men != 0; n++) {
+                int s = lowest(men);
                 men &= men - 1;
-                touch(starts[set] + 2 * numberOf(code << 6 | s) + (code & 1), taken != NONE);
+                int number = weight > 0 ? least + s * weight : numberOf(code << 6 | s);
+                touch(start + 2 * number, taken != NONE);
             }
+        }
+
+        /** What a square counts of a man that comes to the row; 0, if like men are there. */
+        private int weightOf(int code) {
+            int slot = 0;
+            for (int i = 0; i < rowSize; i++) {
+                if (row[i] >> 6 == code) {
+                    return 0;
+                }
+                slot += row[i] >> 6 < code ? 1 : 0;
+            }
+            return powers[slot];
         }
 
         /** The men of a position into the row, but for the square without, where taken stands instead. */
         private void gatherRow(Position p, int without, int taken) {
             rowSize = 0;
             long men = p.occupied();
-            for (int n = Long.bitCount(men); n > 0; n--) {
-                int s = Long.bitCount((men & -men) - 1);
+            for (int n = 0; n < BOARD && men != 0; n++) {
+                int s = lowest(men);
                 men &= men - 1;
                 int code = s == without ? taken : p.on[s];
                 if (code != NONE && rowSize < LARGEST) {
@@ -2912,9 +2978,10 @@ public final class GameRules {
         private final Referee referee;
         private final Position[] path = new Position[DEEPEST + 1];
         private final int[][] lists = new int[DEEPEST][MOST_MOVES];
-        private final int[] counts = new int[DEEPEST + 1];
+        /** By what the position behind so many moves has ENDED. */
+        private final int[] ends = new int[DEEPEST + 1];
         private final int[] rowCount = new int[DEEPEST];
-        private int kind, goal, last;
+        private int kind, goal, last, firstMoves;
         boolean over;
         /** Of each first move: how many ways it has, and how many replies refute it. */
         private final int[] ways = new int[MOST_MOVES];
@@ -2955,18 +3022,21 @@ public final class GameRules {
             }
             int[] list = lists[depth];
             int n = referee.collect(path[depth], list, MOST_MOVES);
-            counts[depth] = n;
+            firstMoves = depth == 0 ? n : firstMoves;
+            ends[depth] = n > 0 ? 0 : referee.endOf(path[depth]);
             rowCount[depth] += n;
-            if (rowCount[depth] > MOST_ROWS) {
-                over = true;
-            }
+            over = over || rowCount[depth] > MOST_ROWS;
             if (kind == ROWS && depth + 1 == last) {
                 return n;
             }
             int sum = 0;
             for (int i = 0; i < n && !over; i++) {
-                path[depth + 1].copyFrom(path[depth]);
-                referee.make(path[depth + 1], list[i]);
+                Position next = path[depth + 1];
+                next.copyFrom(path[depth]);
+                referee.make(next, list[i]);
+                if (depth + 1 == last || kind == SERIES) {
+                    ends[depth + 1] = referee.endOf(next);
+                }
                 int branch = branch(depth, i);
                 if (depth == 0) {
                     ways[i] = branch;
@@ -2978,25 +3048,14 @@ public final class GameRules {
 
         /** What move i behind depth moves adds to the tree's sum. */
         private int branch(int depth, int i) {
-            Position p = path[depth + 1];
-            boolean atLast = depth + 1 == last;
             switch (kind) {
                 case DIRECT:
                 case SELF:
                     return (depth & 1) == 0 ? attempt(depth, i) : reply(depth);
                 case HELP:
-                    return !atLast ? tree(depth + 1) : isGoal(p, referee.endOf(p)) ? 1 : 0;
+                    return depth + 1 < last ? tree(depth + 1) : isGoal(depth + 1) ? 1 : 0;
                 case SERIES:
-                    int end = referee.endOf(p);
-                    if (atLast) {
-                        return isGoal(p, end) ? 1 : 0;
-                    }
-                    if (end != 0 || referee.isRoyalHit(p, p.side)) {
-                        return 0;
-                    }
-                    p.side = 1 - p.side;
-                    p.clearPass();
-                    return tree(depth + 1);
+                    return depth + 1 < last ? goOn(depth) : isGoal(depth + 1) ? 1 : 0;
                 default:
                     return tree(depth + 1);
             }
@@ -3004,38 +3063,38 @@ public final class GameRules {
 
         /** 1, if the move is such as the problem asks for. */
         private int attempt(int depth, int i) {
-            Position p = path[depth + 1];
-            if (depth + 1 == last) {
-                if (depth == 0) {
-                    refuting[i] = referee.collect(p, lists[1], MOST_MOVES);
-                }
-                return isGoal(p, referee.endOf(p)) ? 1 : 0;
-            }
-            int refutations = tree(depth + 1);
+            boolean more = depth + 1 < last;
+            int refutations = more ? tree(depth + 1) : 0;
             if (depth == 0) {
-                refuting[i] = refutations;
+                refuting[i] = more ? refutations : referee.collect(path[1], lists[1], MOST_MOVES);
             }
-            if (counts[depth + 1] == 0) {
-                return kind == DIRECT && isGoal(p, referee.endOf(p)) ? 1 : 0;
-            }
-            return refutations == 0 ? 1 : 0;
+            boolean such = ends[depth + 1] == 0 ? more && refutations == 0 : kind == DIRECT && isGoal(depth + 1);
+            return such ? 1 : 0;
         }
 
         /** 1, if the reply refutes. */
         private int reply(int depth) {
-            Position p = path[depth + 1];
-            boolean atLast = depth + 1 == last;
-            int such = atLast ? 0 : tree(depth + 1);
-            boolean may = kind == SELF && (atLast || counts[depth + 1] == 0);
-            return such > 0 || may && isGoal(p, referee.endOf(p)) ? 0 : 1;
+            boolean such = depth + 1 < last && tree(depth + 1) > 0;
+            return such || kind == SELF && isGoal(depth + 1) ? 0 : 1;
         }
 
-        /** Whether the GOAL is made by a move that led to a position that has ENDED so, or not ENDED (0). */
-        private boolean isGoal(Position p, int end) {
+        /** Rows of a SERIES that go on behind a move that is not the last one. */
+        private int goOn(int depth) {
+            Position p = path[depth + 1];
+            if (ends[depth + 1] != 0 || referee.isRoyalHit(p, p.side)) {
+                return 0;
+            }
+            p.side = 1 - p.side;
+            p.clearPass();
+            return tree(depth + 1);
+        }
+
+        /** Whether the GOAL is made by the last one of depth moves. */
+        private boolean isGoal(int depth) {
             switch (goal) {
-                case 0: return end == 5;
-                case 1: return end == 6;
-                default: return referee.winnerOf(p, end) == 1 - p.side;
+                case 0: return ends[depth] == 5;
+                case 1: return ends[depth] == 6;
+                default: return referee.winnerOf(path[depth], ends[depth]) == 1 - path[depth].side;
             }
         }
 
@@ -3043,13 +3102,13 @@ public final class GameRules {
         void keep(int newPlace) {
             place = newPlace;
             keyCount = 0;
-            for (int i = 0; i < counts[0]; i++) {
+            for (int i = 0; i < firstMoves; i++) {
                 if (ways[i] > 0) {
                     keys[keyCount] = i;
                     keyCount++;
                 }
             }
-            refutedCount = kind == DIRECT || kind == SELF ? counts[0] : 0;
+            refutedCount = kind == DIRECT || kind == SELF ? firstMoves : 0;
             System.arraycopy(refuting, 0, refuted, 0, refutedCount);
         }
 
