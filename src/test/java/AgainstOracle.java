@@ -7,7 +7,6 @@ import java.util.Random;
 public final class AgainstOracle {
     private static int wrong = 0;
     private static final java.util.TreeMap<String, Integer> stats = new java.util.TreeMap<>();
-    private static final int[] calls = new int[64];
 
     private final Random random;
     private final long seed;
@@ -327,7 +326,6 @@ public final class AgainstOracle {
     private void oneCall() {
         int p = place();
         int what = less(30);
-        calls[what]++;
         switch (what) {
             case 0: if (chance(20)) newRules(); break;
             case 1: newPosition(); break;

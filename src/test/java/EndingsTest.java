@@ -138,18 +138,21 @@ public final class EndingsTest {
     private static void solvedAll() {
         Check c = new Check("solved all", "board 3 3; man r 0 1 ride 2; man w 0 1;");
         c.due("RRw: itself, Rw, RR, R, w, none", c.solve("RwR"), 6);
-        for (int side = 0; side < 2; side++) {
-            int sum = 0;
-            for (int n = 0; n < 60; n++) sum += c.x.tally(side, 1000000 - n) + c.x.tally(side, n - 1000000);
-            c.due("like men count once", sum + c.x.tally(side, 0), 36 * 7);
-        }
+        for (int side = 0; side < 2; side++) c.due("like men count once", sum(c, side), 36 * 7);
         c.due("a side without men has lost", c.x.worth(c.position("3/1R1/3 w - - - 00 0")), 3000000);
         c.due("a side without men has lost", c.x.worth(c.position("3/1R1/3 b - - - 00 0")), 1000000);
         c.due("taking it", c.x.worth(c.position("w2/1R1/R2 w - - - 00 0")), 2999999);
         Check d = new Check("solved, becoming", "board 3 3; man p to fore 0 1; man q 1 1; man n 1 2; becomes p q n;");
         d.due("Pp, PQ .. none", d.solve("Pp"), 16);
         d.due("Pq, Qq, Nq, P, Q, N, q, none", d.solve("Pq"), 8);
-        d.due("no pawn on its last rank", d.x.tally(0, 0) >= 0 ? d.x.worth(d.position("2q/P2/3 w - - - 00 0")) >= 0 ? 1 : 0 : 0, 1);
+        for (int side = 0; side < 2; side++) d.due("no pawn on its last rank", sum(d, side), 6 * 8);
+    }
+
+    /** How many positions have any worth of less than 60 moves, or none. */
+    private static int sum(Check c, int side) {
+        int sum = c.x.tally(side, 0);
+        for (int n = 0; n < 60; n++) sum += c.x.tally(side, 1000000 - n) + c.x.tally(side, n - 1000000);
+        return sum;
     }
 
     private static void solvedWith() {
@@ -164,6 +167,10 @@ public final class EndingsTest {
         e.due("on it", e.x.worth(e.position("3k/4/4/K3 b - - - 00 0")), 1000000);
         e.due("beside it", e.x.worth(e.position("3k/4/4/1K2 w - - - 00 0")), 2999999);
         e.due("and the other one is far away", e.x.worth(e.position("3k/4/4/1K2 b - - - 00 0")), 1000002);
+        Check f = new Check("solved with shy", "board 4 4; " + KINGS + "shy;");
+        f.due("KRk", f.solve("KRk"), 2);
+        f.due("a mate can't be given", f.x.tally(0, 999999), 0);
+        f.due("but be there", f.x.tally(1, -1000000) > 0 ? 1 : 0, 1);
         Check g = new Check("solved with bare won and must", "board 3 3; man a 0 1; bare won; must;");
         g.due("Aa", g.solve("Aa"), 4);
         g.due("it must take", g.x.worth(g.position("3/1a1/1A1 w - - - 00 0")), 1000001);

@@ -48,6 +48,9 @@ public final class GamesTest {
         c.due("start anew", c.x.start(7, 0), 0);
         c.due("now", c.x.figure(c.x.now(7), 0), 1);
         c.due("a move of BLACK", c.x.add(7, 0), 1);
+        c.due("start anew", c.x.start(7, 0), 0);
+        c.due("without moves", c.x.game(7, 0), 0);
+        c.due("without moves", c.x.played(7, 0), Check.UNKNOWN);
         int p = c.position("6k1/5ppp/8/8/8/8/8/K2R4 w - - - 00 0");
         c.x.start(0, p);
         c.due("not ended", c.x.game(0, 3), 0);
@@ -181,6 +184,10 @@ public final class GamesTest {
         int q = c.position("4k3/8/8/8/3pP3/8/8/4K3 b - e4e3 - 00 0");
         c.due("by catch", c.x.sees(q, 1, 20), 1);
         c.due("catch is for the side to move alone", c.x.sees(q, 0, 20), 0);
+        Check d = new Check("sees by catch", "board 5 5; man a to fore pass 0 1 ride 2; man c on catch 1 1;");
+        int r = d.position("5/5/Ac3/5/1C3 b - a3a2 - 00 0");
+        d.due("the side to move", d.x.sees(r, 1, 5), 1);
+        d.due("the side not to move", d.x.sees(r, 0, 5), 0);
         c.due("square 64", c.x.sees(p, 0, 64), Check.OUTSIDE);
         c.due("side 2", c.x.sees(p, 2, 0), Check.OUTSIDE);
         c.due("side -1", c.x.sees(77, -1, 0), Check.OUTSIDE);

@@ -93,10 +93,10 @@ public final class PositionTest {
         c.due("checks, ahead of hands", c.position("4k3/8/8/8/8/8/8/K7 w - - Q 01 0"), -7);
         c.due("hands", c.position("4k3/8/8/8/8/8/8/K7 w - - q 00 0"), -8);
         Check d = new Check("right with checks and hand", Check.CHESS + "checks 2; hand;");
-        d.due("both", d.position("4k3/8/8/8/8/8/8/K7 w - - qPPq 91 0"), 0);
+        d.due("both", d.position("4k3/8/8/8/8/8/8/K7 w - - qPPPq 91 0"), 0);
         d.due("checks", d.x.figure(0, 2), 9);
         d.due("checks", d.x.figure(0, 3), 1);
-        d.due("hand", d.x.figure(0, 6), 2);
+        d.due("hand", d.x.figure(0, 6), 3);
         d.due("hand", d.x.figure(0, 7), 2);
         Check e = new Check("no castle told", Check.CHESSMEN + "royal k;");
         e.due("rights", e.position("4k3/8/8/8/8/8/8/R3K3 w a1 - - 00 0"), -4);
@@ -211,5 +211,9 @@ public final class PositionTest {
         d.due("from the first rank", d.x.attacked(0, 17, 0), 1);
         d.due("not by to", d.x.attacked(0, 9, 0), 0);
         d.due("BLACK's other ranks", d.x.attacked(0, 14, 1), 0);
+        Check e = new Check("two ways to a square", "board 5 5; man a to 0 2, on 0 1 ride 2;");
+        e.position("5/5/5/a4/A4 w - - - 00 0");
+        e.due("the one without to is shut", e.x.attacked(0, 10, 0), 0);
+        e.due("the one without to is open", e.x.attacked(0, 2, 0), 1);
     }
 }
