@@ -1100,13 +1100,14 @@ public final class GameRules {
 
     /** All ways that STEPS lead over the board, laid out once for all: by code, by square, by square come to. */
     private static final class Ways {
-        private static final int FIRST_ROOM = 16384;
+        // A STEP that rides along ranks and files comes to 14 squares of 8 x 8, from each: none comes to more.
+        private static final int MOST_WAYS = CODES * MOST_STEPS * BOARD * 14;
 
         /** Where the ways of a code from s to t begin; those behind them begin where these end. */
         final int[] first = new int[CODES * BOARD * BOARD + 1];
         /** Of a way: the square come to, 6 bits; the STEP's words, 6 bits; how often its vector is gone along. */
-        int[] way = new int[FIRST_ROOM];
-        long[] between = new long[FIRST_ROOM];
+        final int[] way = new int[MOST_WAYS];
+        final long[] between = new long[MOST_WAYS];
         /** By code and square: from where a way leads there; from where one without to does. */
         final long[] from = new long[CODES * BOARD];
         final long[] hitFrom = new long[CODES * BOARD];
@@ -1228,9 +1229,8 @@ public final class GameRules {
         }
 
         private void addWay(int code, int s, int t, int flags, int k) {
-            if (count >= way.length) {
-                way = Arrays.copyOf(way, 2 * count);
-                between = Arrays.copyOf(between, 2 * count);
+            if (count >= MOST_WAYS) {
+                return;
             }
             long gone = 0;
             int stride = k > 0 ? (t - s) / k : 0;
@@ -2555,14 +2555,14 @@ public final class GameRules {
             if (!gatherSets()) {
                 return false;
             }
-            makeRoom((int) total);
+            makeRoom();
             told = asked;
             tail = 0;
             markAll();
             current = OPEN;
             countAll();
             queueEnds();
-            for (int head = 0; head < tail; head++) {
+            for (int head = 0; head < tail && head < MOST_SIZE; head++) {
                 int node = queue[head];
                 int set = setOf(node);
                 current = worths[node];
@@ -2611,7 +2611,7 @@ public final class GameRules {
             sets = 0;
             total = 0;
             addSet(asked);
-            for (int i = 0; i < sets && total <= MOST_SIZE; i++) {
+            for (int i = 0; i < sets && i < MOST_SETS && total <= MOST_SIZE; i++) {
                 addSetsOf(keys[i]);
             }
             if (total > MOST_SIZE) {
@@ -2665,12 +2665,12 @@ public final class GameRules {
             }
         }
 
-        private void makeRoom(int size) {
-            if (worths.length < size) {
-                int room = Math.max(size, Math.min(2 * worths.length, MOST_SIZE));
-                worths = new int[room];
-                left = new int[room];
-                queue = new int[room];
+        /** Once, for the greatest SETS that there may be, so that no later solve() makes rows again. */
+        private void makeRoom() {
+            if (worths.length < MOST_SIZE) {
+                worths = new int[MOST_SIZE];
+                left = new int[MOST_SIZE];
+                queue = new int[MOST_SIZE];
             }
         }
 

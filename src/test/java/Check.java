@@ -41,6 +41,13 @@ final class Check {
         System.out.println(about + ": " + what + " told '" + got + "', due is '" + want + "'");
     }
 
+    /** RULES whose STEPS lead over the board in as many ways as can be; the last STEP of each man alone takes. */
+    static String mostWays() {
+        StringBuilder b = new StringBuilder("board 8 8;");
+        for (char m = 'a'; m < 'm'; m++) b.append("man ").append(m).append(" to0 1ride7").append(",to0 1ride7".repeat(6)).append(",on0 1ride7;");
+        return b.toString();
+    }
+
     /** THE TAPE becomes a text. */
     Check tape(String t) {
         x.end(0);

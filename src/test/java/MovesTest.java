@@ -20,6 +20,7 @@ public final class MovesTest {
         royalTakenByCatch();
         over();
         foreAndVectors();
+        mostWays();
         endings();
         asked();
         Check.finish();
@@ -296,6 +297,16 @@ public final class MovesTest {
         c.due("a knight", c.texts(c.position("a4/5/2N2/5/5 w - - - 00 0")), "Nb1 Nd1 Na2 Ne2 Na4 Ne4 Nb5 Nd5");
         c.due("a leaper goes over men", c.texts(c.position("a4/5/1aWa1/2a2/5 w - - - 00 0")), "Wc1 Wa3 We3 Wc5");
         c.due("ride is stopped by a man between", c.texts(c.position("5/5/2a2/5/X4 w - - - 00 0")), "Xxc3#");
+    }
+
+    private static void mostWays() {
+        Check c = new Check("as many ways as can be", Check.mostWays());
+        c.due("by the last way of all", c.texts(c.position("A5Al/8/8/8/8/8/8/8 b - - - 00 0")), "Lh1 Lh2 Lh3 Lh4 Lh5 Lh6 Lh7 Lxg8");
+        c.due("by the first ones", c.texts(c.position("8/8/8/8/8/8/8/Al6 w - - - 00 0")), "Axb1# Aa2 Aa3 Aa4 Aa5 Aa6 Aa7 Aa8");
+        c.due("rules again", c.rules("board 3 3; man a 1 1;"), 1);
+        c.due("few ways", c.texts(c.position("a2/3/A2 w - - - 00 0")), "Ab2");
+        c.due("many again", c.rules(Check.mostWays()), 12);
+        c.due("by the last way of all", c.x.moves(c.position("A5Al/8/8/8/8/8/8/8 b - - - 00 0")), 8);
     }
 
     private static void endings() {

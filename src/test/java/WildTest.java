@@ -84,7 +84,7 @@ public final class WildTest {
         long first = bean.getThreadAllocatedBytes(id);
         Check c = new Check("room");
         long made = bean.getThreadAllocatedBytes(id) - first;
-        c.due("a new object makes less than a megabyte", made < 1 << 20 ? 1 : 0, 1);
+        c.due("a new object makes less than three megabytes", made < 3 << 20 ? 1 : 0, 1);
         c.position(Check.START);
         c.x.start(0, 0);
         first = bean.getThreadAllocatedBytes(id);
@@ -99,9 +99,20 @@ public final class WildTest {
         made = bean.getThreadAllocatedBytes(id) - first;
         c.due("later calls make next to nothing", made < 10000 ? 1 : 0, 1);
         first = bean.getThreadAllocatedBytes(id);
-        c.rules("board 8 8; man k 0 1, 1 1; man q 0 1 ride 7, 1 1 ride 7; royal k;");
-        for (int i = 0; i < 3; i++) c.solve("KQk");
+        String kings = "board 8 8; man k 0 1, 1 1; man q 0 1 ride 7, 1 1 ride 7; royal k;";
+        c.rules(kings);
+        c.due("too great", c.solve("KQkq"), Check.ROOM);
+        c.due("rules", c.rules(Check.mostWays()), 12);
         made = bean.getThreadAllocatedBytes(id) - first;
-        c.due("three rows for endings, used again", made < 3 * 4 * 600000 + 100000 ? 1 : 0, 1);
+        c.due("the greatest rules make nothing", made < 40000 ? 1 : 0, 1);
+        String[][] growing = {{"board 3 3;man a 0 1;", "AA"}, {"board 3 3;man a 0 1;", "AAAAA"}, {"board 6 7;man a 0 1;", "AAA"},
+            {"board 7 8;man a 0 1;", "AAA"}, {kings, "KQk"}, {"board 8 8;man a 0 1;", "AAA"}, {kings, "Kk"}};
+        first = bean.getThreadAllocatedBytes(id);
+        for (String[] one : growing) {
+            c.rules(one[0]);
+            c.due("solve " + one[1], c.solve(one[1]) > 0 ? 1 : 0, 1);
+        }
+        made = bean.getThreadAllocatedBytes(id) - first;
+        c.due("three rows for endings, made once", made < 3 * 4 * 600000 + 100000 ? 1 : 0, 1);
     }
 }
