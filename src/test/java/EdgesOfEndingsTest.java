@@ -182,6 +182,12 @@ public final class EdgesOfEndingsTest {
             Check c = new Check("solve with " + more, KINGS + more);
             c.due("solve", c.solve("Kk"), 1);
         }
+        // The RULES before had STEPS with catch where these have none, as many men as can be.
+        Check c = new Check("solve behind RULES with catch");
+        StringBuilder twelve = new StringBuilder("board 3 3;");
+        for (char m = 'a'; m < 'm'; m++) twelve.append("man ").append(m).append(" to fore 0 1,to fore 1 0;");
+        c.due("rules", c.rules(twelve.toString()), 12);
+        c.due("solve", c.solve("La"), 4);
     }
 
     /** "may have 600000 together", "ROOM: they are too great (what was solved before is no more, in that case alone)" */

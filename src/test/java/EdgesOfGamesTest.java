@@ -13,6 +13,7 @@ public final class EdgesOfGamesTest {
         hear();
         start();
         add();
+        fullGame();
         back();
         game();
         gameAlike();
@@ -41,6 +42,8 @@ public final class EdgesOfGamesTest {
         texts("the same file", r, "N1i/3/N2 w - - - 00 0", "N1a2 N1b2 N3a2 N3b2");
         texts("the same file, and the same rank", r, "N1i/3/N1N w - - - 00 0", "N1a2 Na1b2 Ncb2 Nc2 N3a2 N3b2");
         texts("all", r, "N1N/i2/N1N w - - - 00 0", "N1xa2# Na1b2 Nc1b2 N1c2 N3xa2# Na3b2 Nc3b2 N3c2");
+        String pass = "board 3 5;man p to fore pass 0 1 ride 2;man c on fore catch 1 1,on fore catch -1 1;";
+        texts("two that take by catch", pass, "3/3/cPc/3/3 b - b3b2 - 00 0", "Caxb2# Ccxb2#");
         texts("men of another kind do not count", "board 3 3;man a 1 1;man b 1 1;", "2a/3/A1B w - - - 00 0", "Ab2 Bb2");
         texts("men of the other side do not count", "board 3 3;man a 1 1;", "3/3/A1a w - - - 00 0", "Ab2");
         String k = "board 3 3;man k 0 1;man r 0 1 ride 2;man n 1 1;man i to fore 2 2 from 2;royal k;";
@@ -177,6 +180,33 @@ public final class EdgesOfGamesTest {
         c.due("full again", c.x.add(5, 0), Check.ROOM);
         c.due("start makes it empty", c.x.start(5, 0), 0);
         c.due("add", c.x.add(5, 0), 1);
+    }
+
+    /** A full game leaves its neighbours as they are, and they leave it. */
+    private static void fullGame() {
+        Check c = new Check("a full game and its neighbours", "board 3 3;man a to 0 1;");
+        String[] t = {"2a/3/A2 w - - - 00 0", "a2/3/2A b - - - 00 0"};
+        c.position(t[0]);
+        c.position(t[1]);
+        c.x.start(3, 1);
+        c.x.start(5, 1);
+        c.x.start(4, 0);
+        for (int n = 1; n <= 300; n++) c.due("add", c.x.add(4, 0), n);
+        for (int g : new int[] {3, 5}) {
+            c.due("no moves", c.x.game(g, 0), 0);
+            c.due("its own position", c.written(c.x.now(g)), t[1]);
+        }
+        String last = c.written(c.x.now(4));
+        int first = c.x.played(4, 0);
+        c.x.start(3, 1);
+        c.x.start(5, 1);
+        c.x.add(5, 1);
+        c.x.add(5, 1);
+        c.due("the last position stays", c.written(c.x.now(4)), last);
+        c.due("the last move stays", c.x.played(4, 299), 0);
+        c.due("the first move stays", c.x.played(4, 0), first);
+        for (int n = 299; n >= 298; n--) c.due("back", c.x.back(4), n);
+        c.due("two moves before it is the same side's turn", c.x.figure(c.x.now(4), 0), 0);
     }
 
     /** Promise 24: "how many are left. OUTSIDE, UNKNOWN, STATE: it has none." */

@@ -195,6 +195,9 @@ public final class EdgesOfMovesTest {
         texts("not on its first rank", six, "2a/3/P2/3 w - - - 00 0", "a1 b2 a3");
         texts("BLACK's last rank is 1", six, "3/3/1p1/2A b - - - 00 0", "b1=F b1=E b1=D b1=C b1=B b1=A a2 c2 b3");
         texts("BLACK on WHITE's last rank", six, "3/p2/3/2A b - - - 00 0", "a2 b3 a4");
+        written("BLACK's is BLACK's", six, "3/3/1p1/2A b - - - 00 3", "b1=D", "3/3/3/1dA w - - - 00 0");
+        written("WHITE's is WHITE's", six, "2a/1P1/3/3 w - - - 00 3", "b4=A", "1Aa/3/3/3 b - - - 00 0");
+        written("by a taking", six, "3/3/1p1/1A1 b - - - 00 3", "bxb1=A", "3/3/3/1a1 w - - - 00 0");
         texts("one", r + "becomes p c;", "a2/P2/3/3 w - - - 00 0", "a2 b3 axa4=C#");
         texts("none", r.toString(), "a2/P2/3/3 w - - - 00 0", "Pa2 Pb3 Pxa4#");
     }
@@ -439,6 +442,10 @@ public final class EdgesOfMovesTest {
         texts("into an attack", r, "1r1/2k/K2 w - - - 00 0", "Ka2");
         texts("a man that shuts a line", r, "r1k/R2/K2 w - - - 00 0", "Kb1 Rxa3+");
         texts("no ROYAL man of its own", r, "r1k/R2/3 w - - - 00 0", "Ra1 Rb2 Rc2+ Rxa3+");
+        Check c = new Check("a catch that lays the king open");
+        c.due("the man of PASS alone stood between", c.hear(c.position("b3k3/8/8/3pP3/8/8/6K1/8 w - d5d6 - 00 0"), "exd6"), Check.NONE);
+        c.due("nothing looks at it", c.hear(c.position("4k3/8/8/3pP3/8/8/6K1/8 w - d5d6 - 00 0"), "exd6") >= 0 ? 1 : 0, 1);
+        c.due("another move leaves it there", c.hear(c.position("b3k3/8/8/3pP3/8/8/6K1/8 w - d5d6 - 00 0"), "e6") >= 0 ? 1 : 0, 1);
         texts("no ROYAL man told", "board 3 3;man k 0 1;man r 0 1 ride 2;", "1r1/2k/K2 w - - - 00 0", "Kb1 Ka2");
     }
 
