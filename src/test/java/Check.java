@@ -67,7 +67,8 @@ final class Check {
 
     String out() {
         StringBuilder b = new StringBuilder();
-        for (int i = 0; i < x.told(6); i++) b.append((char) x.out(i));
+        int n = x.told(6);
+        for (int i = 0; i < n; i++) b.append((char) x.out(i));
         return b.toString();
     }
 

@@ -8,6 +8,7 @@ public final class EdgesOfEndingsTest {
         beforeRefused();
         beforeNone();
         beforeMost();
+        beforeOrder();
         beforeIsBare();
         beforeEnded();
         beforeAt();
@@ -95,6 +96,27 @@ public final class EdgesOfEndingsTest {
         c.due("the same one", c.written(4), edge[1]);
         for (int k = 1; k < 40; k++) c.x.beforeAt(75 * k);
         for (int p = 5; p < 43; p++) c.due("in order", c.written(p).compareTo(c.written(p + 1)) < 0 ? 1 : 0, 1);
+    }
+
+    /** "in order of their texts WRITTEN (by the first byte that differs)": capital letters, small ones, digits, for either side. */
+    private static void beforeOrder() {
+        String r = "board 4 4;man z 0 1 ride 3;man b 1 1 ride 3;man m 1 2;man p fore 0 1,on fore 1 1;becomes p z m;";
+        String[] all = {"z3/1M2/2bP/Z3", "1z2/bZ1M/4/m2B", "4/zmb1/BMZ1/4", "ZZ2/4/4/2zz", "m1m1/4/4/Z1Mm"};
+        for (String men : all) {
+            for (String side : new String[] {" w", " b"}) {
+                Check c = new Check("before, in order", r);
+                int n = c.x.before(c.position(men + side + " - - - 00 0"));
+                c.due("some", n > 1 ? 1 : 0, 1);
+                String last = "";
+                for (int k = 0; k < n; k++) {
+                    int p = c.x.beforeAt(k);
+                    String t = c.written(p);
+                    c.x.drop(p);
+                    c.due(last + " ahead of " + t, last.compareTo(t) < 0 ? 1 : 0, 1);
+                    last = t;
+                }
+            }
+        }
     }
 
     /** "A BARE position has no RIGHTS, PASS, HANDS; CHECKS and CLOCK are 0." */
@@ -248,7 +270,11 @@ public final class EdgesOfEndingsTest {
         c.due("five like ones", c.solve("aaaaa"), 6);
         c.due("positions", c.x.tally(0, -1000000), 126);
         c.due("WHITE has none: it lost, or BLACK won", c.x.tally(1, 1000000), 126);
+        c.due("worth", c.x.worth(c.position("aaa/a1a/3 w - - - 00 0")), 1000000);
+        c.due("worth", c.x.worth(c.position("aaa/a1a/3 b - - - 00 0")), 3000000);
         c.due("five different ones", c.solve("ABabc"), 32);
+        c.due("worth", c.x.worth(c.position("abc/3/1AB w - - - 00 0")), 2000000);
+        c.due("worth of six", c.x.worth(c.position("abc/3/AAB w - - - 00 0")), Check.STATE);
         int all = 9 * 8 * 7 * 6 * 5, sum = 0;
         for (int n = 0; n < 20; n++) sum += c.x.tally(0, 1000000 - n) + c.x.tally(0, n - 1000000);
         c.due("all positions of WHITE", sum + c.x.tally(0, 0), all);

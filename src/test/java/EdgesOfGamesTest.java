@@ -135,6 +135,11 @@ public final class EdgesOfGamesTest {
         for (int q : NO_PLACES) c.due("hear(" + q + ")", c.hear(q, "Rh8#"), Check.UNKNOWN);
         Check d = new Check("promise 21, ended", "board 3 3;man a 0 1;");
         d.due("no move", d.hear(d.position("3/3/A2 w - - - 00 0"), "Ab1"), Check.NONE);
+        Check f = new Check("moves of another position are not heard", Check.CHESS);
+        int many = f.position(Check.START), few = f.position("k7/8/8/8/8/8/8/K7 w - - - 00 0");
+        f.due("many", f.x.moves(many), 20);
+        f.due("the move that would be next", f.hear(few, "Nh3"), Check.NONE);
+        f.due("a later one", f.hear(few, "h4"), Check.NONE);
         Check e = new Check("every text is heard as its move", Check.CHESS);
         p = e.position("r3k2r/p1ppqpb1/bn2pnp1/3PN3/1p2P3/2N2Q1p/PPPBBPPP/R3K2R w a1h1a8h8 - - 00 0");
         for (int i = 0; i < 48; i++) e.due("move " + i, e.hear(p, e.said(p, i)), i);

@@ -203,8 +203,12 @@ public final class EdgesOfPositionsTest {
             answer(r, "8/7l/8 w - h2a2b2c2d2e2f2g2 - 00 0", -5);
         }
         // Eight squares ahead of two that are right by themselves, and more of that kind.
-        for (int n = 1; n <= 9; n++) answer("board 8 3;man l pass 0 1 ride 2;", "8/7l/8 w - " + "a1".repeat(n) + "h2g2 - 00 0", -5);
-        for (int n = 1; n <= 9; n++) answer("board 8 3;man l pass 0 1 ride 2;", "8/7l/8 w - h2g2" + "a1".repeat(n) + " - 00 0", -5);
+        for (String square : new String[] {"a1", "c1", "g2"}) {
+            for (int n = 1; n <= 9; n++) {
+                answer("board 8 3;man l pass 0 1 ride 2;", "8/7l/8 w - " + square.repeat(n) + "h2g2 - 00 0", -5);
+                answer("board 8 3;man l pass 0 1 ride 2;", "8/7l/8 w - h2g2" + square.repeat(n) + " - 00 0", -5);
+            }
+        }
         Check c = new Check("a long pass", "board 8 3;man l pass 0 1 ride 7;");
         c.position("8/7l/8 w - h2b2c2d2e2f2g2 - 00 0");
         c.due("written", c.written(0), "8/7l/8 w - h2b2c2d2e2f2g2 - 00 0");

@@ -1079,6 +1079,17 @@ final class Oracle {
         return n;
     }
 
+    /** Of each WORTH that positions of the SET told with a SIDE have: how many. */
+    TreeMap<Integer, Integer> tallies(int side) {
+        TreeMap<Integer, Integer> all = new TreeMap<>();
+        for (Map.Entry<String, Integer> e : solved.entrySet()) {
+            String k = e.getKey();
+            String men = sorted(k.substring(0, k.length() - 1).replaceAll("[^A-Za-z]", ""));
+            if (k.endsWith("" + side) && men.equals(toldSet)) all.merge(e.getValue(), 1, Integer::sum);
+        }
+        return all;
+    }
+
     // ------------------------------------------------------------- problems
 
     private boolean makes(Pos behind, int goal) {
