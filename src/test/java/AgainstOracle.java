@@ -27,7 +27,7 @@ public final class AgainstOracle {
 
     public static void main(String[] args) {
         int from = args.length > 0 ? Integer.parseInt(args[0]) : 0;
-        int to = args.length > 1 ? Integer.parseInt(args[1]) : 40;
+        int to = args.length > 1 ? Integer.parseInt(args[1]) : 60;
         for (int seed = from; seed < to && wrong < 5; seed++) new AgainstOracle(seed).run();
         for (java.util.Map.Entry<String, Integer> e : stats.entrySet()) System.out.println(e.getKey() + ": " + e.getValue());
         System.out.println(wrong == 0 ? "all answers agree" : wrong + " runs disagree");
@@ -231,7 +231,11 @@ public final class AgainstOracle {
     private void compareOut() {
         int n = o.told(6);
         check("told(6)", x.told(6), n);
-        for (int i = -1; i <= n; i++) if (x.out(i) != o.out(i)) check("out(" + i + ")", x.out(i), o.out(i));
+        made += n + 2;
+        for (int i = -1; i <= n; i++) {
+            int got = x.out(i);
+            if (got != o.out(i)) check("out(" + i + ")", got, o.out(i));
+        }
     }
 
     private void newRules() {
@@ -320,7 +324,7 @@ public final class AgainstOracle {
         log.append("(the first rules)\n");
         if (chance(75)) newRules();
         for (int i = 0; i < 3; i++) newPosition();
-        for (int round = 0; round < 60 && made < 440 && !broken; round++) oneCall();
+        for (int round = 0; round < 60 && made < 360 && !broken; round++) oneCall();
     }
 
     private void oneCall() {

@@ -94,8 +94,14 @@ public final class EdgesOfEndingsTest {
         c.due("3000 again", c.x.before(most), 3000);
         c.due("and found", c.x.beforeAt(2999), 4);
         c.due("the same one", c.written(4), edge[1]);
-        for (int k = 1; k < 40; k++) c.x.beforeAt(75 * k);
-        for (int p = 5; p < 43; p++) c.due("in order", c.written(p).compareTo(c.written(p + 1)) < 0 ? 1 : 0, 1);
+        Check d = new Check("the most before, in order", r.toString());
+        d.x.before(d.position("7a/A1A3A1/1AA5/1AAA4/2AA4/8/8/8 b - - - 00 0"));
+        String last = "";
+        for (int k = 0; k < 3000; k += 375) {
+            String t = d.written(d.x.beforeAt(k));
+            d.due(last + " ahead of " + t, last.compareTo(t) < 0 ? 1 : 0, 1);
+            last = t;
+        }
     }
 
     /** "in order of their texts WRITTEN (by the first byte that differs)": capital letters, small ones, digits, for either side. */
@@ -104,14 +110,12 @@ public final class EdgesOfEndingsTest {
         String[] all = {"z3/1M2/2bP/Z3", "1z2/bZ1M/4/m2B", "4/zmb1/BMZ1/4", "ZZ2/4/4/2zz", "m1m1/4/4/Z1Mm"};
         for (String men : all) {
             for (String side : new String[] {" w", " b"}) {
-                Check c = new Check("before, in order", r);
-                int n = c.x.before(c.position(men + side + " - - - 00 0"));
-                c.due("some", n > 1 ? 1 : 0, 1);
                 String last = "";
+                int n = 2;
                 for (int k = 0; k < n; k++) {
-                    int p = c.x.beforeAt(k);
-                    String t = c.written(p);
-                    c.x.drop(p);
+                    Check c = new Check("before, in order", r);
+                    n = c.x.before(c.position(men + side + " - - - 00 0"));
+                    String t = c.written(c.x.beforeAt(k));
                     c.due(last + " ahead of " + t, last.compareTo(t) < 0 ? 1 : 0, 1);
                     last = t;
                 }
@@ -121,14 +125,14 @@ public final class EdgesOfEndingsTest {
 
     /** "A BARE position has no RIGHTS, PASS, HANDS; CHECKS and CLOCK are 0." */
     private static void beforeIsBare() {
-        Check c = new Check("before, bare", "board 5 3;man k 0 1;man r 1 2;man p to fore pass 0 1 ride 2;royal k;castle r;");
-        int p = c.position("4k/5/P1K1R b e1 - - 00 150");
-        String all = found(c, p);
+        String r = "board 5 3;man k 0 1;man r 1 2;man p to fore pass 0 1 ride 2;royal k;castle r;";
+        String all = found(new Check("before, bare", r), "4k/5/P1K1R b e1 - - 00 150");
+        Check c = new Check("before, bare", r);
         c.due("some", all.isEmpty() ? 0 : 1, 1);
         for (String t : all.split(" \\| ")) c.due(t, t.substring(t.indexOf(' ')), " w - - - 00 0");
-        int q = c.position("P3k/5/2K1R b - a3a2 - 00 3");
-        c.due("PASS and CLOCK are not asked", found(c, q).contains("4k/5/P1K1R w - - - 00 0") ? 1 : 0, 1);
-        c.due("nor are they kept", found(c, q), found(c, c.position("P3k/5/2K1R b - - - 00 77")));
+        String passed = found(c, "P3k/5/2K1R b - a3a2 - 00 3");
+        c.due("PASS and CLOCK are not asked", passed.contains("4k/5/P1K1R w - - - 00 0") ? 1 : 0, 1);
+        c.due("nor are they kept", passed, found(new Check("before, bare", r), "P3k/5/2K1R b - - - 00 77"));
     }
 
     /** "are RIGHT, have not ENDED by 1 to 4" */

@@ -139,19 +139,14 @@ public final class ProblemsTest {
         int p = c.position("k7/8/1K6/8/8/8/8/7R w - - - 00 0");
         c.due("in 1", c.x.problem(p, SERIES, MATE, 1), 1);
         int rows = 0;
-        for (int i = 0; i < c.x.moves(p); i++) {
-            int q = c.x.go(p, i);
-            boolean on = c.x.ended(q) == 0 && c.x.attacked(q, 56, 0) == 0;
-            c.x.drop(q);
-            if (!on) continue;
+        int n = c.x.moves(p);
+        for (int i = 0; i < n; i++) {
+            Check each = new Check("series rules, move " + i);
+            int q = each.x.go(each.position("k7/8/1K6/8/8/8/8/7R w - - - 00 0"), i);
+            if (each.x.ended(q) != 0 || each.x.attacked(q, 56, 0) != 0) continue;
             // The same men with WHITE to move once more.
-            c.x.go(p, i);
-            c.x.write(q);
-            String t = c.out().replace(" b ", " w ");
-            c.x.drop(q);
-            int again = c.position(t);
-            rows += c.x.problem(again, DIRECT, MATE, 1);
-            c.x.drop(again);
+            int again = each.position(each.written(q).replace(" b ", " w "));
+            rows += each.x.problem(again, DIRECT, MATE, 1);
         }
         c.due("in 2", c.x.problem(p, SERIES, MATE, 2), rows);
         // WHITE's b may not catch WHITE's a, which went by; else nothing of WHITE's would be left to lose.

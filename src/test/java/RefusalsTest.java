@@ -3,7 +3,7 @@ import java.util.List;
 
 /**
  * "Refusals are answers, of several the first one here: OUTSIDE, UNKNOWN, STATE, ROOM. They change nothing but THE TAPE, and
- * what is told": all that an object tells is taken down, a call is refused, and all is as it was.
+ * what is told": an object whose call was refused tells all that one without that call does.
  */
 public final class RefusalsTest {
     private static final String RULES = "board 4 4;man k 0 1,1 1;man q 0 1 ride 3,1 1 ride 3;man p to fore 0 1;royal k;becomes p q;";
@@ -23,7 +23,8 @@ public final class RefusalsTest {
         unknown();
         stateAndRoom();
         faults();
-        for (Case one : CASES) run(one);
+        String was = all(ready("no refusal"));
+        for (Case one : CASES) run(one, was);
         severalAtOnce();
         Check.finish();
     }
@@ -114,8 +115,15 @@ public final class RefusalsTest {
         for (String t : new String[] {"", "K", "Kkx", "KkQQQQ"}) add("solve " + t, -200 - (t.endsWith("x") ? 2 : t.length() > 5 ? 5 : t.length()), c -> c.solve(t));
     }
 
-    private static void run(Case one) {
-        Check c = new Check(one.name, RULES);
+    private static void run(Case one, String was) {
+        Check c = ready(one.name);
+        c.due(one.name, one.call.on(c), one.want);
+        c.due("all that is told", all(c), was);
+    }
+
+    /** Positions, games, what was found, what is solved, a problem, and THE OUT. */
+    private static Check ready(String about) {
+        Check c = new Check(about, RULES);
         c.position("k3/4/4/KQ2 w - - - 00 7");
         c.position("3k/4/1P2/K3 b - - - 00 200");
         c.position("1qqk/4/Q3/KQQ1 w - - - 00 0");
@@ -128,12 +136,10 @@ public final class RefusalsTest {
         c.due("solved", c.solve("KQk"), 2);
         c.due("a problem", c.x.problem(0, 0, 0, 2) >= 0 ? 1 : 0, 1);
         c.x.write(1);
-        String was = all(c);
-        c.due(one.name, one.call.on(c), one.want);
-        c.due("all that is told", all(c), was);
+        return c;
     }
 
-    /** All that an object tells; THE OUT comes first, and is the same behind it. */
+    /** All that an object tells. */
     private static String all(Check c) {
         GameRules x = c.x;
         StringBuilder b = new StringBuilder(c.out());
@@ -151,7 +157,6 @@ public final class RefusalsTest {
         }
         b.append('\n').append(x.tally(0, 0)).append(' ').append(x.tally(1, -1000000));
         for (int i = 0; i < 6; i++) b.append(' ').append(x.key(i)).append(' ').append(x.refutes(i));
-        x.write(1);
         return b.toString();
     }
 

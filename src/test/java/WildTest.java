@@ -18,7 +18,7 @@ public final class WildTest {
         String[] positions = {Check.START, "r3k2r/8/8/3pP3/8/8/8/R3K2R w a1h1a8h8 d5d6 - 00 0", "2k/3/K1P w - - - 00 0", "3/3/3 b - - - 00 0"};
         c.rules(rules[r.nextInt(rules.length)]);
         for (String p : positions) c.position(p);
-        for (int i = 0; i < 450; i++) {
+        for (int i = 0; i < 304; i++) {
             try {
                 call(c, r, i % 38);
             } catch (RuntimeException e) {
