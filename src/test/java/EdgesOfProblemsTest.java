@@ -14,6 +14,7 @@ public final class EdgesOfProblemsTest {
         problemLimits();
         longerProblemLimits();
         seriesLimit();
+        seriesOfDrops();
         refused();
         ended();
         direct();
@@ -139,6 +140,28 @@ public final class EdgesOfProblemsTest {
         p = e.position("8/8/8/8/8/8/CB5c/CCCC4 w - - - 00 0");
         e.due("17 moves", e.x.moves(p), 17);
         e.due("rows of 4", e.x.problem(p, SERIES, STALEMATE, 4), 0);
+    }
+
+    /** ".. n (3)": two DROPS in 100000 ways; with one man that may go over the one dropped on b1 there is one row more. */
+    private static void seriesOfDrops() {
+        StringBuilder r = new StringBuilder("board 6 8;hand;man s 7 7;man i 7 7;man z over fore 1 0 ride 2;");
+        for (char m = 'a'; m < 'j'; m++) {
+            char inner = m == 'i' ? 'j' : m;
+            r.append("man ").append(inner).append(" 7 7;becomes ").append(inner).append(" s;");
+        }
+        // 42 squares are empty, 32 of them neither on the first nor on the last rank; a second man of a to e may follow.
+        String text = "5I/6/6/6/IIII2/6/6/%s5 w - - SAABBCCDDEEFGHJs 00 0";
+        Check c = new Check("series of drops", r.toString());
+        int p = c.position(String.format(text, "I"));
+        int q = c.position(String.format(text, "Z"));
+        c.due("moves", c.x.moves(p), 42 + 9 * 32);
+        c.due("moves", c.x.moves(q), 42 + 9 * 32);
+        c.due("just 100000 rows", c.x.problem(p, SERIES, STALEMATE, 2), 0);
+        c.due("100001 rows", c.x.problem(q, SERIES, STALEMATE, 2), Check.ROOM);
+        c.due("rows of 1", c.x.problem(q, SERIES, STALEMATE, 1), 0);
+        q = c.after(q, "S@b1");
+        q = c.after(q, "S@a8");
+        c.due("over the one that was dropped", c.hear(q, "Zc1") >= 0 ? 1 : 0, 1);
     }
 
     /** Promise 36: "a kind (0 .. 3), with a GOAL (0 .. 2), in n moves (1 .. 4) [..] OUTSIDE, UNKNOWN, STATE, ROOM" */
